@@ -725,7 +725,7 @@ public final class AStreetByACane {
         return NONE;
     }
 
-    /** The odds of k cells to the right: each step multiplies (left, straight, right) into those of the steps before. */
+    /** The odds of k cells to the right, from a row of all places that the steps so far can end at. */
     private long driftedBy(int w, int l, int r, int k) {
         Arrays.fill(drifts, 0L);
         drifts[0] = 1L;
@@ -978,7 +978,7 @@ public final class AStreetByACane {
 
         void lessen() {
             long common = 0L;
-            for (int c = 0; c < LONGEST; c++) {
+            for (int c = 0; c < LONGEST && common != 1L; c++) {
                 common = commonPart(common, weights[c]);
             }
             for (int c = 0; c < LONGEST && common > 1L; c++) {
@@ -1275,9 +1275,11 @@ public final class AStreetByACane {
         /** Row d: the ODDS behind the answers to d SIGNS. */
         private final long[][] weights = new long[MOST_SIGNS + 1][LONGEST];
         private int signCount = 0;
+        private int cells = 0;
 
         void lookFrom(Street street) {
             signCount = street.signCount;
+            cells = street.length;
             for (int c = 0; c < LONGEST; c++) {
                 weights[0][c] = street.odds.at(c);
             }
@@ -1290,14 +1292,14 @@ public final class AStreetByACane {
         }
 
         long worthOf(int signs) {
-            return worthBehind(signs, 0);
+            return worthBehind(this, signs, 0);
         }
 
         int bestAlone() {
             int best = NONE;
             long most = -1L;
             for (int i = 0; i < signCount; i++) {
-                long worth = worthBehind(1 << i, 0);
+                long worth = worthBehind(this, 1 << i, 0);
                 if (worth > most) {
                     best = i;
                     most = worth;
@@ -1327,7 +1329,7 @@ public final class AStreetByACane {
             long most = TEN * greatest(1);
             for (int i = 0; i < signCount; i++) {
                 if (i != looked) {
-                    most = Math.max(most, worthBehind(1 << i, 1));
+                    most = Math.max(most, worthBehind(this, 1 << i, 1));
                 }
             }
             return most;
@@ -1345,7 +1347,7 @@ public final class AStreetByACane {
         }
 
         private boolean reaches(int signs, int size, int t, long all) {
-            long worth = worthBehind(signs, 0);
+            long worth = worthBehind(this, signs, 0);
             if (size == 0) {
                 return worth * TEN >= t * all;
             }
@@ -1358,16 +1360,15 @@ public final class AStreetByACane {
         }
 
         /** The sum of the greatest weights over all answers to a set of SIGNS, behind those of a row. */
-        private long worthBehind(int signs, int depth) {
+        private static long worthBehind(Outlook on, int signs, int depth) {
             if (signs == 0 || depth >= MOST_SIGNS) {
-                return greatest(depth);
+                return on.greatest(depth);
             }
             int sign = lowestOf(signs);
             int others = signs & signs - 1;
-            weigh(depth, sign, true);
-            long sum = worthBehind(others, depth + 1);
-            weigh(depth, sign, false);
-            return sum + worthBehind(others, depth + 1);
+            // An answer that can't be adds nothing, however the others are answered.
+            long sum = on.weigh(depth, sign, true) ? worthBehind(on, others, depth + 1) : 0L;
+            return on.weigh(depth, sign, false) ? sum + worthBehind(on, others, depth + 1) : sum;
         }
 
         private static int lowestOf(int signs) {
@@ -1378,21 +1379,32 @@ public final class AStreetByACane {
             return sign;
         }
 
-        /** Row depth, times the STRENGTHS of a SIGN (or ten less them), comes to the next row. */
-        private void weigh(int depth, int sign, boolean is) {
+        /** The next row becomes this one by an answer to a SIGN: whether any odds are left. */
+        private boolean weigh(int depth, int sign, boolean is) {
             if (depth < 0 || depth >= MOST_SIGNS || sign < 0 || sign >= MOST_SIGNS) {
-                return;
+                return false;
             }
-            for (int c = 0; c < LONGEST; c++) {
-                int times = is ? tenths[sign][c] : TEN - tenths[sign][c];
-                weights[depth + 1][c] = weights[depth][c] * times;
+            long[] from = weights[depth];
+            long[] to = weights[depth + 1];
+            int[] there = tenths[sign];
+            long any = 0L;
+            for (int c = 0; c < cells && c < LONGEST; c++) {
+                to[c] = from[c] * (is ? there[c] : TEN - there[c]);
+                any |= to[c];
             }
+            return any != 0L;
         }
 
         private long greatest(int depth) {
+            if (depth < 0 || depth > MOST_SIGNS) {
+                return 0L;
+            }
+            long[] row = weights[depth];
             long most = 0L;
-            for (int c = 0; c < LONGEST && depth >= 0 && depth <= MOST_SIGNS; c++) {
-                most = Math.max(most, weights[depth][c]);
+            for (int c = 0; c < cells && c < LONGEST; c++) {
+                if (row[c] > most) {
+                    most = row[c];
+                }
             }
             return most;
         }
