@@ -796,8 +796,8 @@ public final class AStreetByACane {
             case 11:
                 return perform(sign, sign.kind, FEELS, x, ran, deeper) * 2;
             case 12:
-                int taught = perform(sign, sign.kind, TEACHES, x, ran, deeper);
-                return taught ^ perform(sign, sign.kind, FEELS, x - sign.b, ran, deeper);
+                return perform(sign, sign.kind, TEACHES, x, ran, deeper)
+                    ^ perform(sign, sign.kind, FEELS, x - sign.b, ran, deeper);
             case 20:
                 return perform(sign, above, FEELS, x, ran, deeper) + sign.b;
             case 30:

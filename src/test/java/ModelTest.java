@@ -7,7 +7,7 @@ import java.util.Random;
 
 /** Runs of calls on the class and on the plain model: every answer has to be the same, and nothing is thrown. */
 public final class ModelTest {
-    private static final int RUNS = 1500;
+    private static final int RUNS = 600;
     private static final int CALLS = 512;
     private static final String[] WORDS = {"long", "sign", "thing", "wander", "arc", "hour"};
     private static final int[] COUNTS = {1, 4, 3, 2, 1, 1};

@@ -187,6 +187,7 @@ public final class OddsTest {
     }
 
     private static void feelRefused() {
+        canBeInTheFirstCell();
         AStreetByACane x = new AStreetByACane();
         x.street(3);
         x.sign(0, 1, 10, 0);
@@ -204,6 +205,15 @@ public final class OddsTest {
         Due.refused("feel: it can't be, nor any more", -6, x, () -> x.feel(0, false));
         Due.refused("feel: no more", -7, x, () -> x.feel(0, true));
         Due.refused("feel: no such one, nor any more", -1, x, () -> x.feel(3, true));
+    }
+
+    private static void canBeInTheFirstCell() {
+        AStreetByACane x = new AStreetByACane();
+        x.sign(0, 0, 1, 0);
+        x.lost(0);
+        Due.due("feel: it can just be", 1, x.feel(0, true));
+        Due.due("feel: it can well not be", 2, x.feel(0, false));
+        oddsAre("the first cell", x, 1, 0);
     }
 
     private static void where() {

@@ -60,6 +60,8 @@ public final class OutlookTest {
             y.sign(0, i, 5, 0);
         }
         Due.due("eight signs: worth is told", 1, y.worth(255) > 0 ? 1 : 0);
+        Due.due("eight signs: worth of the last", 5 + 10, y.worth(128));
+        Due.due("eight signs: worth of the first and the last", 50 + 50 + 100, y.worth(129));
         Due.refused("eight signs: worth(256)", -1, y, () -> y.worth(256));
     }
 
@@ -95,6 +97,7 @@ public final class OutlookTest {
         Due.notRefused("ahead() of three", 2, x, () -> x.ahead());
         aheadBehindNews();
         aheadUnlikeNext();
+        aheadByBothAnswers();
     }
 
     private static void aheadBehindNews() {
@@ -123,6 +126,16 @@ public final class OutlookTest {
         Due.due("next() of the three", 0, x.next());
         // 0 first: 100 and 200. 1 first: 200 and 200, and so is 2.
         Due.due("ahead() of the three", 1, x.ahead());
+    }
+
+    private static void aheadByBothAnswers() {
+        AStreetByACane x = new AStreetByACane();
+        x.street(4);
+        x.sign(0, 1, 10, 0);
+        x.sign(0, 3, 5, 0);
+        x.sign(6, 3, 5, 0);
+        // If it is there, and if not: 100 and 150, 50 and 200, 75 and 200.
+        Due.due("ahead() by both answers", 2, x.ahead());
     }
 
     private static void least() {

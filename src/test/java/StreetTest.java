@@ -37,6 +37,8 @@ public final class StreetTest {
         Due.due("street: a sign's shelf", -1, x.holds(0));
         Due.due("street: a row's shelf", 102, x.holds(1));
         Due.due("street: right()", -6, x.right());
+        Due.due("street: no sign", -1, x.feel(0, true));
+        Due.due("street: no thing", -1, x.clear(0));
         Due.due("street: wander as it was", 203, x.wander(1, 1));
         Due.due("street(2)", 24, x.street(2));
         Due.due("street(2) again", 2, x.street(2));
@@ -94,12 +96,19 @@ public final class StreetTest {
         Due.due("things: none", 0, x.things(0, 0, 0));
         Due.due("things: none at the end", 0, x.things(0, 13, 0));
         Due.due("things: the first can't be", 0, x.things(0, 0, 3));
+        Due.put(x, 3, 12, 1, 1, -1, 1, 1, 0, 1, 0, 0, 1, 11);
+        for (int i = 0; i < 12; i += 3) {
+            Due.due("things: it can't be one, at " + i, 0, x.things(3, i, 3));
+        }
+        Due.due("things: none came", 2, x.status(2));
+        x.show(3, -1);
         thingsAsInts(x);
         thingsRefused(x);
         AStreetByACane y = new AStreetByACane();
         Due.put(y, 0, 1, 1, 1, 1, 1, 1, 1, 1, 1);
+        Due.due("things: one of three", 1, y.things(0, 3, 3));
+        Due.due("things: two of three", 2, y.things(0, 0, 6));
         Due.due("things: three", 3, y.things(0, 0, 9));
-        Due.due("things: three more", 3, y.things(0, 0, 9));
         Due.due("things: room for two", 2, y.things(0, 0, 9));
         Due.due("things: no room", 0, y.things(0, 0, 9));
     }

@@ -6,6 +6,7 @@ public final class TownTest {
     public static void main(String[] args) {
         town();
         overWhatThereIs();
+        leastNumbers();
         lettersAsInts();
         refused();
         faults();
@@ -65,6 +66,22 @@ public final class TownTest {
         Due.due("town with long at the end: things", 0, x.status(2));
         Due.due("town with long at the end: the shelf", -1, x.holds(4));
         Due.due("town with long at the end: in truth", -6, x.right());
+    }
+
+    private static void leastNumbers() {
+        AStreetByACane x = new AStreetByACane();
+        x.ask(0, 5);
+        Due.put(x, 0, "hour 0;wander 0 0;arc 1;long 2;sign 0 0 1 0;thing 0 0 1");
+        Due.due("town of the least numbers", 6, x.town(0));
+        Due.due("the least hour", 0, x.status(5));
+        Due.due("the least arc", 1, x.status(7));
+        Due.due("the least wander", 0, x.wander(1, 1));
+        Due.due("the least long", 2, x.status(0));
+        Due.due("the least b", 0, x.signOf(0, 3));
+        Due.put(x, 0, "wander 10 0;wander 0 10;hour 7");
+        Due.due("town of the greatest numbers", 3, x.town(0));
+        Due.due("the greatest hour", 7, x.status(5));
+        Due.due("the greatest wander", 10, x.wander(1, 1));
     }
 
     private static void lettersAsInts() {
