@@ -16,25 +16,24 @@ final class Due {
         }
     }
 
-    /** A call that is refused: it answers the number, counts it (and no other), and changes nothing else. */
+    /** A call that is refused: it answers the number and counts it; that nothing else changes, Edge looks at. */
     static void refused(String call, long want, AStreetByACane x, LongSupplier asks) {
         refusedAs(call, want, want, x, asks);
     }
 
     static void refusedAs(String call, long want, long countedAs, AStreetByACane x, LongSupplier asks) {
-        long[] counts = refusals(x);
-        String before = Sight.of(x);
+        int what = (int) (10 - countedAs);
+        long before = x.status(what);
         due(call, want, asks.getAsLong());
-        long[] countsThen = refusals(x);
-        for (int i = 1; i <= 7; i++) {
-            due(call + ": refusals -" + i, counts[i] + (i == -countedAs ? 1 : 0), countsThen[i]);
-        }
-        same(call + ": what can be seen", before, Sight.of(x));
+        due(call + ": how many", before + 1, x.status(what));
     }
 
-    /** A call that is not refused whatever it answers. */
+    /** A call that is not refused, though its answer may look so. */
     static void notRefused(String call, long want, AStreetByACane x, LongSupplier asks) {
-        refusedAs(call, want, 0, x, asks);
+        int what = want < 0 && want >= -7 ? (int) (10 - want) : 16;
+        long before = x.status(what);
+        due(call, want, asks.getAsLong());
+        due(call + ": how many", before, x.status(what));
     }
 
     static void same(String what, String want, String got) {
@@ -66,13 +65,5 @@ final class Due {
         for (int i = 0; i < numbers.length; i++) {
             x.set(s, i, numbers[i]);
         }
-    }
-
-    private static long[] refusals(AStreetByACane x) {
-        long[] counts = new long[8];
-        for (int i = 1; i <= 7; i++) {
-            counts[i] = x.status(10 + i);
-        }
-        return counts;
     }
 }

@@ -7,7 +7,7 @@ import java.util.Random;
 
 /** Runs of calls on the class and on the plain model: every answer has to be the same, and nothing is thrown. */
 public final class ModelTest {
-    private static final int RUNS = 600;
+    private static final int RUNS = 900;
     private static final int CALLS = 512;
     private static final String[] WORDS = {"long", "sign", "thing", "wander", "arc", "hour"};
     private static final int[] COUNTS = {1, 4, 3, 2, 1, 1};
@@ -153,7 +153,7 @@ public final class ModelTest {
         for (int what = -1; what < 20; what++) {
             same = same && call("status", what);
         }
-        for (int c = -1; c < x.status(0); c++) {
+        for (int c = -1; c < model.status(0); c++) {
             same = same && call("odds", c);
         }
         for (int s = 0; s < 8; s++) {
@@ -162,7 +162,11 @@ public final class ModelTest {
         return same;
     }
 
+    /** No call beyond those for which the document promises anything. */
     private boolean call(String name, Object... arguments) throws ReflectiveOperationException {
+        if (calls.size() >= CALLS) {
+            return true;
+        }
         calls.add(name + Arrays.toString(arguments));
         long due = answer(model, PlainModel.class, name, arguments);
         long got;

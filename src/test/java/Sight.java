@@ -1,4 +1,4 @@
-/** All of an object's state that can be seen without changing it or being refused. */
+/** What can be seen of an object without changing it or being refused, in some 150 calls. */
 final class Sight {
     private Sight() {
     }
@@ -38,10 +38,15 @@ final class Sight {
 
     private static void shelves(AStreetByACane x, StringBuilder seen) {
         for (int s = 0; s < 8; s++) {
-            seen.append(" shelf").append(s).append('=').append(x.holds(s)).append(':');
-            for (int i = 0; i < 160 && x.holds(s) >= 100; i++) {
-                seen.append(x.element(s, i)).append(',');
-            }
+            seen.append(" shelf").append(s).append('=').append(x.holds(s));
+        }
+    }
+
+    /** The elements of a row, in 161 calls more. */
+    static void elements(AStreetByACane x, int s, StringBuilder seen) {
+        seen.append(" row").append(s).append('=');
+        for (int i = 0; i <= 160; i++) {
+            seen.append(x.element(s, i)).append(',');
         }
     }
 }
