@@ -755,6 +755,17 @@ public final class OddsEdgesTest extends Edge {
         }), x -> x.told(0, 1));
     }
 
+    @Says("(As ints: of longs the lowest 32 bits.)")
+    static void promise28_ofLongsTheLowest32Bits() {
+        Supplier<AStreetByACane> longs = with(x -> {
+            known(x);
+            putLongs(x, 0, 7L << 32, 1L << 40, (1L << 32) + BACK, (1L << 32) + 2);
+        });
+        tells(3, longs, x -> x.told(0, 2));
+        tells(2, longs, x -> x.told(0, 3));
+        refuses(-6, longs, x -> x.told(0, 4));
+    }
+
     @Says("-1; -2; -3; -4; -5; -6 likewise")
     static void promise28_minus1_noSuchShelf() {
         sharedMinus1(AStreetByACane::told);
